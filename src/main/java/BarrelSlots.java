@@ -1371,7 +1371,8 @@ public final class BarrelSlots {
         private static final int WHOLE = 720720;
 
         private final int[] limits = new int[THREADS];
-        private final int[][] left = new int[LAST + 1][THREADS];
+        /** What the limits less t were, a row of all threads for each t. */
+        private final int[] left = new int[(LAST + 1) * THREADS];
         private final int[] owners = new int[LAST + 1];
 
         int find(int[] gaps, Table table) {
@@ -1411,22 +1412,22 @@ public final class BarrelSlots {
 
         private void note(int[] gaps, int t) {
             for (int thread = 0; thread < THREADS; thread++) {
-                left[t][thread] = gaps[thread] > 0 ? limits[thread] - t : 0;
+                left[t * THREADS + thread] = gaps[thread] > 0 ? limits[thread] - t : 0;
             }
         }
 
         private int periodAt(int t) {
             for (int period = 1; period <= SLOTS && period <= t; period++) {
-                if (isSame(left[t], left[t - period])) {
+                if (isSame(t, t - period)) {
                     return period;
                 }
             }
             return NONE;
         }
 
-        private static boolean isSame(int[] a, int[] b) {
+        private boolean isSame(int t, int earlier) {
             for (int thread = 0; thread < THREADS; thread++) {
-                if (a[thread] != b[thread]) {
+                if (left[t * THREADS + thread] != left[earlier * THREADS + thread]) {
                     return false;
                 }
             }

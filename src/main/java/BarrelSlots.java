@@ -1318,7 +1318,7 @@ public final class BarrelSlots {
             return true;
         }
 
-        /** Least or most instructions of a round of a plain code, where each way leads ahead and a loop is entered at its first place alone. */
+        /** Of a plain code alone: each way leads ahead there, and a loop is entered at its first place. */
         int ofRound(Code code, boolean most) {
             Arrays.fill(reached, NONE);
             reached[0] = 0;

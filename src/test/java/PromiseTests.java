@@ -374,6 +374,12 @@ public final class PromiseTests {
         // (2,3,6) 3 | (2,2,5) 3 | (2,1,4) 4 | (1,3,3) 3 | (2,2,2) 3 | (2,1,1) 4 | (1,3,0) missed
         due("missed", b.found(), 2);
         isTable(b, 4, 3);
+        b.asks(3, 3);
+        b.asks(5, 16);
+        // the one of 16 comes each 17 slots or so: the least period is above 16
+        due("no period", b.found(), 3);
+        isTable(b, 4, 3);
+        b.asks(3, 2);
         b.asks(5, 0);
         b.asks(4, 0);
         due("one of gap 2", b.found(), 0);
@@ -417,6 +423,9 @@ public final class PromiseTests {
         }
         due("edges", b.edge(0, 0), -1);
         due("table", b.table(0), 0);
+        b.run(12);
+        due("one alone is at the channel again", b.channel(0, 1), 1);
+        b.start();
         due("twice", b.start(), 0);
     }
 
@@ -1116,6 +1125,30 @@ public final class PromiseTests {
         due("changes nothing", b.count(0) + b.register(0, 0) + b.level(0, 0), 0);
         b.run(2);
         due("from now on", b.ahead(0, 0, 1), 2);
+        BarrelSlots c = single();
+        c.memory(0, 4);
+        code(c, 0, i(SET, 1, 3), i(STORE, 1, 1), i(LOAD, 2, 1), i(HALT));
+        c.run(2);
+        due("cells as they are", c.ahead(0, 2, 1), 3);
+        due("memory stays", c.cell(0, 3), 3);
+        BarrelSlots s = new BarrelSlots();
+        s.slots(2);
+        s.slot(0, 0);
+        s.slot(1, 1);
+        s.set(0, 1, 44);
+        code(s, 0, i(SEND, 2, 1), i(HALT));
+        code(s, 1, i(WAIT, 5), i(TAKE, 2, 6), i(HALT));
+        s.set(1, 5, 8);
+        s.run(4);
+        s.set(0, 1, 45);
+        due("who is at channels, and who waits", s.ahead(1, 6, 5), 0);
+        due("who is at channels, and who waits", s.ahead(1, 6, 6), 44);
+        due("sends still", s.channel(2, 0), 1);
+        BarrelSlots l = single();
+        code(l, 0, i(LOOP, 4, 0), i(CLOCK, 1), i(HALT));
+        l.run(2);
+        due("loops as begun", l.ahead(0, 1, 10), 5);
+        due("loop stays", l.code(0, 0, 4), 2);
         refused("0 ticks", () -> b.ahead(0, 0, 0));
         refused("301 ticks", () -> b.ahead(0, 0, 301));
         refused("register 8", () -> b.ahead(0, 8, 1));

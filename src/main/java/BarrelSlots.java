@@ -387,17 +387,17 @@ public final class BarrelSlots {
             case 2:
                 return table.owned(NONE);
             case 3:
-                return live.given();
+                return live.given;
             case 4:
                 return live.lost;
             case 5:
-                return live.done();
+                return live.done;
             case 6:
                 return live.pins.edges.kept;
             case 7:
                 return events.length;
             case 8:
-                return live.late();
+                return live.late;
             case 9:
                 return live.lastGiven;
             case 10:
@@ -984,6 +984,9 @@ public final class BarrelSlots {
         private final Events events;
         int now;
         int lost;
+        int given;
+        int done;
+        int late;
         int lastGiven = NONE;
         int passed;
 
@@ -1003,6 +1006,9 @@ public final class BarrelSlots {
             channels.copy(from.channels);
             now = from.now;
             lost = from.lost;
+            given = from.given;
+            done = from.done;
+            late = from.late;
             lastGiven = from.lastGiven;
             passed = from.passed;
         }
@@ -1015,6 +1021,9 @@ public final class BarrelSlots {
             channels.reset();
             now = 0;
             lost = 0;
+            given = 0;
+            done = 0;
+            late = 0;
             lastGiven = NONE;
             passed = 0;
         }
@@ -1066,6 +1075,7 @@ public final class BarrelSlots {
                 thread = thread + 1 < THREADS ? thread + 1 : 0;
                 if (isThread(thread) && !strands[thread].isHard && strands[thread].canGo()) {
                     strands[thread].given++;
+                    given++;
                     lastGiven = thread;
                     return thread;
                 }
@@ -1085,6 +1095,7 @@ public final class BarrelSlots {
             int y = code.ys[at];
             int z = code.zs[at];
             strand.done++;
+            done++;
             int trap = trapOf(strand, kind, x, y);
             if (trap != NO_TRAP) {
                 strand.stopBy(trap);
@@ -1167,6 +1178,16 @@ public final class BarrelSlots {
             strand.state = WAITS;
         }
 
+        /** Answers 1 if it is late, as an edge tells it. */
+        private int noteLate(Strand strand, int tick) {
+            if (tick >= now) {
+                return 0;
+            }
+            strand.late++;
+            late++;
+            return 1;
+        }
+
         private void writeAt(Strand strand, int pin, int level, int tick) {
             if (tick > now) {
                 strand.errand.port = pin;
@@ -1174,9 +1195,7 @@ public final class BarrelSlots {
                 waitTill(strand, OUTAT, tick);
                 return;
             }
-            int late = tick < now ? 1 : 0;
-            strand.late += late;
-            pins.write(pin, level, now, late);
+            pins.write(pin, level, now, noteLate(strand, tick));
         }
 
         private void readAt(Strand strand, int pin, int register, int tick) {
@@ -1186,7 +1205,7 @@ public final class BarrelSlots {
                 waitTill(strand, INAT, tick);
                 return;
             }
-            strand.late += tick < now ? 1 : 0;
+            noteLate(strand, tick);
             strand.write(register, pins.levelOf(pin));
         }
 
@@ -1230,30 +1249,6 @@ public final class BarrelSlots {
 
         int howManyAt(int channel, int state) {
             return firstAt(channel, state) == null ? 0 : channels.lengthAt(channel);
-        }
-
-        int given() {
-            int sum = 0;
-            for (int thread = 0; thread < THREADS; thread++) {
-                sum += strands[thread].given;
-            }
-            return sum;
-        }
-
-        int done() {
-            int sum = 0;
-            for (int thread = 0; thread < THREADS; thread++) {
-                sum += strands[thread].done;
-            }
-            return sum;
-        }
-
-        int late() {
-            int sum = 0;
-            for (int thread = 0; thread < THREADS; thread++) {
-                sum += strands[thread].late;
-            }
-            return sum;
         }
 
         int trapped() {

@@ -1,55 +1,5 @@
-import java.util.NoSuchElementException;
-
 /** Each promise of the document by hand: ordinary inputs, the edges that are named, wrong inputs. */
-public final class PromiseTests {
-    private static final int SET = 0, ADD = 1, SUB = 2, MUL = 3, LESS = 4, LOAD = 5, STORE = 6, JUMP = 7, BRANCH = 8,
-        LOOP = 9, OUT = 10, OUTAT = 11, IN = 12, INAT = 13, WAIT = 14, CLOCK = 15, SEND = 16, TAKE = 17, HALT = 18,
-        RATIO = 19, PART = 20;
-    private static int wrong = 0;
-    private static int promise = 0;
-
-    private interface Call {
-        int answer();
-    }
-
-    private static void due(String what, long got, long want) {
-        if (got != want) {
-            wrong++;
-            System.out.println("promise " + promise + ": " + what + " answered " + got + ", due is " + want);
-        }
-    }
-
-    private static void due(String what, boolean got, boolean want) {
-        due(what, got ? 1 : 0, want ? 1 : 0);
-    }
-
-    private static void refused(String what, Call call) {
-        boolean thrown = false;
-        try {
-            call.answer();
-        } catch (NoSuchElementException e) {
-            thrown = true;
-        }
-        due(what + " throws", thrown, true);
-    }
-
-    /** A processor whose one slot is of thread 0. */
-    private static BarrelSlots single() {
-        BarrelSlots b = new BarrelSlots();
-        b.slot(0, 0);
-        return b;
-    }
-
-    private static void code(BarrelSlots b, int thread, int[]... rows) {
-        for (int[] row : rows) {
-            b.tell(thread, row[0], row.length > 1 ? row[1] : 0, row.length > 2 ? row[2] : 0, row.length > 3 ? row[3] : 0);
-        }
-    }
-
-    private static int[] i(int... row) {
-        return row;
-    }
-
+public final class PromiseTests extends Check {
     public static void main(String[] args) {
         newObject();
         tell();
@@ -89,14 +39,11 @@ public final class PromiseTests {
         ahead();
         share();
         count();
-        System.out.println(wrong == 0 ? "all promises hold" : wrong + " answers are not as due");
-        if (wrong != 0) {
-            System.exit(1);
-        }
+        end("all promises hold");
     }
 
     private static void newObject() {
-        promise = 1;
+        at("promise 1");
         BarrelSlots b = new BarrelSlots();
         int[] first = {0, 0, 0, 0, 0, 0, -1, 0, 0, 1, -1, 0, 0};
         for (int t = 0; t < 6; t++) {
@@ -120,7 +67,7 @@ public final class PromiseTests {
     }
 
     private static void tell() {
-        promise = 2;
+        at("promise 2");
         // the greatest x, y, z that each kind takes, -1 where any will do; LOOP's y is its own place
         int[][] greatest = {
             {7, -1, -1}, {7, 7, 7}, {7, 7, 7}, {7, 7, 7}, {7, 7, 7}, {7, 7, -1}, {7, 7, -1}, {-1, 23, -1}, {7, 23, -1},
@@ -155,7 +102,7 @@ public final class PromiseTests {
     }
 
     private static void wipe() {
-        promise = 3;
+        at("promise 3");
         BarrelSlots b = single();
         due("none such", b.wipe(6), -1);
         due("none such", b.wipe(-1), -1);
@@ -197,7 +144,7 @@ public final class PromiseTests {
     }
 
     private static void memory() {
-        promise = 4;
+        at("promise 4");
         BarrelSlots b = single();
         due("no thread", b.memory(6, 1), -2);
         due("no thread", b.memory(-1, -1), -2);
@@ -219,7 +166,7 @@ public final class PromiseTests {
     }
 
     private static void hard() {
-        promise = 5;
+        at("promise 5");
         BarrelSlots b = new BarrelSlots();
         due("already", b.hard(0, true), false);
         due("soft", b.hard(0, false), true);
@@ -233,7 +180,7 @@ public final class PromiseTests {
     }
 
     private static void pin() {
-        promise = 6;
+        at("promise 6");
         BarrelSlots b = new BarrelSlots();
         due("others", b.pin(8, true), false);
         due("others", b.pin(-1, true), false);
@@ -249,7 +196,7 @@ public final class PromiseTests {
     }
 
     private static void event() {
-        promise = 7;
+        at("promise 7");
         BarrelSlots b = new BarrelSlots();
         due("no pin", b.event(0, 1, true), -1);
         b.pin(0, true);
@@ -282,7 +229,7 @@ public final class PromiseTests {
     }
 
     private static void slots() {
-        promise = 8;
+        at("promise 8");
         BarrelSlots b = new BarrelSlots();
         due("0", b.slots(0), -1);
         due("17", b.slots(17), -1);
@@ -301,7 +248,7 @@ public final class PromiseTests {
     }
 
     private static void slot() {
-        promise = 9;
+        at("promise 9");
         BarrelSlots b = new BarrelSlots();
         due("of 5", b.slot(0, 5), true);
         due("again", b.slot(0, 5), true);
@@ -314,7 +261,7 @@ public final class PromiseTests {
     }
 
     private static void dueTicks() {
-        promise = 10;
+        at("promise 10");
         BarrelSlots b = new BarrelSlots();
         due("first", b.due(0, 9999), 0);
         due("above", b.due(0, 10000), -1);
@@ -328,7 +275,7 @@ public final class PromiseTests {
     }
 
     private static void asks() {
-        promise = 11;
+        at("promise 11");
         BarrelSlots b = new BarrelSlots();
         due("first", b.asks(5, 16), 0);
         due("above", b.asks(5, 17), -1);
@@ -340,16 +287,8 @@ public final class PromiseTests {
         due("others", b.asks(-1, 1), -1);
     }
 
-    private static void isTable(BarrelSlots b, int... owners) {
-        due("slots", b.count(1), owners.length);
-        for (int s = 0; s < owners.length; s++) {
-            due("table(" + s + ")", b.table(s), owners[s]);
-        }
-        due("beyond", b.table(owners.length), -2);
-    }
-
     private static void found() {
-        promise = 12;
+        at("promise 12");
         BarrelSlots b = new BarrelSlots();
         b.slots(5);
         b.slot(0, 2);
@@ -387,7 +326,7 @@ public final class PromiseTests {
     }
 
     private static void start() {
-        promise = 13;
+        at("promise 13");
         BarrelSlots b = single();
         b.pin(0, true);
         b.pin(4, false);
@@ -430,7 +369,7 @@ public final class PromiseTests {
     }
 
     private static void run() {
-        promise = 14;
+        at("promise 14");
         BarrelSlots b = single();
         due("0", b.run(0), -1);
         due("201", b.run(201), -1);
@@ -449,7 +388,7 @@ public final class PromiseTests {
     }
 
     private static void computing() {
-        promise = 14;
+        at("promise 14");
         BarrelSlots b = single();
         b.memory(0, 3);
         code(b, 0, i(SET, 1, -7), i(SET, 2, 3), i(ADD, 3, 1, 2), i(SUB, 4, 1, 2), i(MUL, 5, 1, 2), i(LESS, 6, 1, 2),
@@ -474,7 +413,7 @@ public final class PromiseTests {
     }
 
     private static void ratioAndPart() {
-        promise = 14;
+        at("promise 14");
         int[] values = {0, 1, -1, 2, 3, -3, 7, 10, 1023, 1024, -1025, 16777215, 16777216, 16777217, 33554433, 123456789,
             -987654321, Integer.MAX_VALUE, Integer.MIN_VALUE, Integer.MIN_VALUE + 1, 2147483583, 2147483584};
         for (int y : values) {
@@ -491,7 +430,7 @@ public final class PromiseTests {
     }
 
     private static void ways() {
-        promise = 14;
+        at("promise 14");
         BarrelSlots b = single();
         code(b, 0, i(BRANCH, 1, 2), i(JUMP, 0, 23), i(JUMP, 0, 0));
         b.run(1);
@@ -531,7 +470,7 @@ public final class PromiseTests {
     }
 
     private static void givenTurns() {
-        promise = 14;
+        at("promise 14");
         BarrelSlots b = new BarrelSlots();
         b.slots(2);
         b.slot(0, 3);
@@ -573,7 +512,7 @@ public final class PromiseTests {
     }
 
     private static void pins() {
-        promise = 14;
+        at("promise 14");
         BarrelSlots b = new BarrelSlots();
         b.slots(2);
         b.slot(0, 0);
@@ -651,7 +590,7 @@ public final class PromiseTests {
     }
 
     private static void channels() {
-        promise = 14;
+        at("promise 14");
         BarrelSlots b = new BarrelSlots();
         b.slots(6);
         for (int s = 0; s < 6; s++) {
@@ -709,7 +648,7 @@ public final class PromiseTests {
     }
 
     private static void traps() {
-        promise = 14;
+        at("promise 14");
         int[][] tries = {
             {-1, -1, LOAD, 0, 0, 1}, {-1, -1, STORE, 0, 0, 1}, {-1, -1, LOAD, 0, 2, 1}, {-1, 0, LOAD, 0, 0, 2},
             {-1, 4, STORE, 0, 1, 2}, {-1, 4, LOAD, 0, 1, 2}, {-1, 4, LOAD, 0, 2, 2}, {-1, 4, STORE, 0, 2, 2},
@@ -747,7 +686,7 @@ public final class PromiseTests {
     }
 
     private static void set() {
-        promise = 15;
+        at("promise 15");
         BarrelSlots b = new BarrelSlots();
         due("was", b.set(5, 7, -3), 0);
         due("was", b.set(5, 7, 4), -3);
@@ -759,7 +698,7 @@ public final class PromiseTests {
     }
 
     private static void register() {
-        promise = 16;
+        at("promise 16");
         BarrelSlots b = new BarrelSlots();
         b.set(0, 3, 8);
         due("is", b.register(0, 3), 8);
@@ -770,7 +709,7 @@ public final class PromiseTests {
     }
 
     private static void cell() {
-        promise = 17;
+        at("promise 17");
         BarrelSlots b = new BarrelSlots();
         refused("no memory", () -> b.cell(0, 0));
         b.memory(0, 2);
@@ -784,7 +723,7 @@ public final class PromiseTests {
     }
 
     private static void codeOf() {
-        promise = 18;
+        at("promise 18");
         BarrelSlots b = single();
         refused("none such", () -> b.code(0, 0, 0));
         b.tell(0, JUMP, -5, 1, 1000);
@@ -811,7 +750,7 @@ public final class PromiseTests {
     }
 
     private static void threadOf() {
-        promise = 19;
+        at("promise 19");
         BarrelSlots b = single();
         due("what 13", b.thread(0, 13), -2);
         due("what -1", b.thread(0, -1), -2);
@@ -832,7 +771,7 @@ public final class PromiseTests {
     }
 
     private static void level() {
-        promise = 20;
+        at("promise 20");
         BarrelSlots b = single();
         b.pin(2, true);
         b.pin(6, false);
@@ -850,7 +789,7 @@ public final class PromiseTests {
     }
 
     private static void edge() {
-        promise = 21;
+        at("promise 21");
         BarrelSlots b = single();
         b.pin(1, true);
         code(b, 0, i(OUT, 1, 1), i(ADD, 1, 1, 2));
@@ -875,7 +814,7 @@ public final class PromiseTests {
     }
 
     private static void channelOf() {
-        promise = 22;
+        at("promise 22");
         BarrelSlots b = new BarrelSlots();
         for (int what = 0; what < 3; what++) {
             due("channel 4", b.channel(4, what), -1);
@@ -898,7 +837,7 @@ public final class PromiseTests {
     }
 
     private static void table() {
-        promise = 23;
+        at("promise 23");
         BarrelSlots b = new BarrelSlots();
         b.slots(3);
         b.slot(1, 4);
@@ -920,7 +859,7 @@ public final class PromiseTests {
     }
 
     private static void plain() {
-        promise = 24;
+        at("promise 24");
         for (int kind = 0; kind <= 20; kind++) {
             boolean plain = kind <= 10 || kind == 12 || kind == 15 || kind >= 19;
             isPlain(plain ? 1 : 0, i(kind, 0, kind == JUMP || kind == BRANCH ? 1 : 0));
@@ -954,7 +893,7 @@ public final class PromiseTests {
     }
 
     private static void bound() {
-        promise = 24;
+        at("promise 24");
         isBound(1, 1, i(SET));
         isBound(2, 3, i(BRANCH, 0, 2), i(SET), i(SET));
         isBound(2, 2, i(JUMP, 0, 2), i(SET), i(SET));
@@ -1021,7 +960,7 @@ public final class PromiseTests {
     }
 
     private static void span() {
-        promise = 25;
+        at("promise 25");
         BarrelSlots b = new BarrelSlots();
         due("no slot", b.span(0, 1, 0), -1);
         b.slots(16);
@@ -1052,7 +991,7 @@ public final class PromiseTests {
     }
 
     private static void will() {
-        promise = 26;
+        at("promise 26");
         BarrelSlots b = new BarrelSlots();
         b.slots(5);
         b.slot(3, 2);
@@ -1087,7 +1026,7 @@ public final class PromiseTests {
     }
 
     private static void alone() {
-        promise = 27;
+        at("promise 27");
         BarrelSlots b = single();
         b.hard(1, false);
         b.hard(2, false);
@@ -1112,7 +1051,7 @@ public final class PromiseTests {
     }
 
     private static void ahead() {
-        promise = 28;
+        at("promise 28");
         BarrelSlots b = single();
         b.pin(0, false);
         b.event(0, 4, true);
@@ -1158,7 +1097,7 @@ public final class PromiseTests {
     }
 
     private static void share() {
-        promise = 29;
+        at("promise 29");
         BarrelSlots b = new BarrelSlots();
         b.slots(3);
         b.slot(0, 0);
@@ -1176,7 +1115,7 @@ public final class PromiseTests {
     }
 
     private static void count() {
-        promise = 30;
+        at("promise 30");
         BarrelSlots b = new BarrelSlots();
         due("what 13", b.count(13), -1);
         due("what -1", b.count(-1), -1);

@@ -790,6 +790,9 @@ public final class CallTests extends Check {
         for (int what = 0; what <= 5; what++) {
             due("of one, what " + what, b.bound(0, what), 1);
         }
+        for (int what : noWhat) {
+            due("of one, what " + what, b.bound(0, what), -1);
+        }
         b.slot(0, -1);
         int[] want = {1, 1, 1, -1, -1, 0};
         for (int what = 0; what <= 5; what++) {
@@ -836,6 +839,7 @@ public final class CallTests extends Check {
         for (int t = 0; t < 6; t++) {
             int thread = t;
             untouched("will of " + t, b -> b.will(thread, 1));
+            untouched("will, the 0th of " + t, b -> b.will(thread, 0), -1);
         }
         BarrelSlots b = withTable(0);
         code(b, 0, i(SET));
@@ -890,6 +894,11 @@ public final class CallTests extends Check {
         for (int t = 0; t < 6; t++) {
             int thread = t;
             untouched("alone of " + t, b -> b.alone(thread, 1));
+            untouched("alone, the 0th of " + t, b -> b.alone(thread, 0), -1);
+        }
+        for (int t : NO_THREAD) {
+            due("lost turns are nobody's, will of " + t, new BarrelSlots().will(t, 1), -1);
+            due("lost turns are nobody's, alone of " + t, new BarrelSlots().alone(t, 1), -1);
         }
         BarrelSlots b = withTable(0, 1);
         b.hard(0, false);

@@ -30,6 +30,7 @@ public final class ProofTests extends Check {
         startedTurns();
         foretoldChangesNothing();
         foretoldByWhatIsTold();
+        foretoldFromWhatIs();
         end("all boundaries of term 3 hold");
     }
 
@@ -566,15 +567,21 @@ public final class ProofTests extends Check {
         due("soft", b.thread(0, 9), 0);
         b.run(91);
         due("nothing of before is written", b.count(6), 0);
+        due("two send again", b.channel(0, 0), 2);
+        due("the first", b.channel(0, 2), 1);
+        at("START: all that is counted is 0: what had passed");
+        BarrelSlots c = withTable(0, 1);
+        code(c, 0, i(SEND, 0, 0));
+        code(c, 1, i(TAKE, 0, 0));
+        c.run(6);
+        due("passed", c.count(12), 3);
+        c.start();
+        due("none", c.count(12), 0);
     }
 
     private static void startedTurns() {
         at("next GIVEN from 0 on");
-        BarrelSlots b = withTable(-1);
-        for (int t = 0; t < 6; t++) {
-            b.hard(t, false);
-            code(b, t, FILLER);
-        }
+        BarrelSlots b = allSoft();
         b.run(3);
         due("given last", b.count(9), 2);
         b.start();
@@ -636,5 +643,39 @@ public final class ProofTests extends Check {
         due("by the table as it is", b.will(0, 1), -1);
         b.hard(0, false);
         due("soft by now", b.will(0, 1), 0);
+    }
+
+    private static void foretoldFromWhatIs() {
+        at("What is foretold: what is waited for, sent and taken goes on from NOW");
+        BarrelSlots b = withTable(0, 1, 2, 3, 4);
+        b.pin(1, true);
+        b.pin(5, false);
+        b.event(5, 20, true);
+        b.memory(4, 2);
+        code(b, 0, i(OUTAT, 1, 1, 2), i(HALT));
+        code(b, 1, i(INAT, 5, 7, 2), i(HALT));
+        code(b, 2, i(SEND, 2, 1), i(HALT));
+        code(b, 3, i(WAIT, 2), i(TAKE, 2, 6), i(OUTAT, 1, 1, 2), i(HALT));
+        code(b, 4, i(SET, 1, 1), i(STORE, 1, 1), i(LOAD, 5, 1), i(HALT));
+        for (int t = 0; t < 4; t++) {
+            b.set(t, 1, 90 + t);
+            b.set(t, 2, t == 3 ? 10 : 20);
+        }
+        b.run(10);
+        due("a level that is read at 20, ahead of it", b.ahead(1, 7, 10), 0);
+        due("a level that is read at 20", b.ahead(1, 7, 11), 1);
+        due("what is sent, ahead of it", b.ahead(3, 6, 3), 0);
+        due("what is sent", b.ahead(3, 6, 4), 92);
+        due("the taker goes on in 18, where another's claim stops it", b.will(3, 2), 18);
+        due("no more behind that", b.will(3, 3), -1);
+        due("a cell as it is", b.ahead(4, 5, 5), 1);
+        b.wipe(0);
+        due("no claim", b.will(3, 3), 23);
+        at("What is foretold: turns are given from the one behind that to which one was given last");
+        BarrelSlots c = allSoft();
+        c.run(2);
+        for (int t = 0; t < 6; t++) {
+            due("will of " + t, c.will(t, 1), t < 2 ? t + 6 : t);
+        }
     }
 }

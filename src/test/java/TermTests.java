@@ -393,11 +393,7 @@ public final class TermTests extends Check {
 
     private static void givenRound() {
         at("from the one behind that to which a TURN was GIVEN last (at first: from 0 on), behind 5 comes 0");
-        BarrelSlots b = withTable(-1);
-        for (int t = 0; t < 6; t++) {
-            b.hard(t, false);
-            code(b, t, i(SET));
-        }
+        BarrelSlots b = allSoft();
         for (int tick = 0; tick < 13; tick++) {
             b.run(1);
             due("in tick " + tick, b.count(9), tick % 6);

@@ -64,6 +64,16 @@ abstract class Check {
         return b;
     }
 
+    /** All slots are spare, all six threads soft, each with one instruction. */
+    static BarrelSlots allSoft() {
+        BarrelSlots b = withTable(-1);
+        for (int t = 0; t < 6; t++) {
+            b.hard(t, false);
+            b.tell(t, SET, 0, 0, 0);
+        }
+        return b;
+    }
+
     static void code(BarrelSlots b, int thread, int[]... rows) {
         for (int[] row : rows) {
             b.tell(thread, row[0], row.length > 1 ? row[1] : 0, row.length > 2 ? row[2] : 0, row.length > 3 ? row[3] : 0);

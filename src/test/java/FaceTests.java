@@ -37,6 +37,7 @@ public final class FaceTests {
         for (Class<?> inside : BarrelSlots.class.getDeclaredClasses()) {
             due(inside + " is static", Modifier.isStatic(inside.getModifiers()), true);
             due(inside + " is hidden", Modifier.isPublic(inside.getModifiers()), false);
+            checkInside(inside);
         }
         System.out.println(wrong == 0 ? "the face is as due" : wrong + " parts of the face are not as due");
         if (wrong != 0) {
@@ -75,6 +76,19 @@ public final class FaceTests {
             text.append(' ').append(type.getSimpleName());
         }
         return text.toString();
+    }
+
+    /** Rules 5 and 11: no static state, some twenty fields at most. */
+    private static void checkInside(Class<?> inside) {
+        int fields = 0;
+        for (Field field : inside.getDeclaredFields()) {
+            if (Modifier.isStatic(field.getModifiers())) {
+                due(field + " is final", Modifier.isFinal(field.getModifiers()), true);
+            } else {
+                fields++;
+            }
+        }
+        due(inside + " has few fields", fields <= 20, true);
     }
 
     private static void checkFields() {
